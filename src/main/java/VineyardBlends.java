@@ -627,7 +627,7 @@ public final class VineyardBlends {
             }
         }
 
-        /** All above the bound are fewer than what is left, so each of them gets 1; of those at it the first ones do. */
+        /** Those above the bound are fewer than what is left, so each gets 1; of those at it the first ones do. */
         private void giveOut(int left, int bound, int length) {
             int forBound = left - reaching(bound + 1, length);
             for (int i = 0; i < length; i++) {
@@ -641,7 +641,7 @@ public final class VineyardBlends {
             }
         }
 
-        /** The greatest number that at least so many remainders reach; searched by halves, as lots may have many grains. */
+        /** The greatest number that so many remainders reach; by halves, as lots may have many grains. */
         private int boundOf(int many, int sum, int length) {
             int low = 0;
             int high = sum;
@@ -1205,7 +1205,7 @@ public final class VineyardBlends {
             return many;
         }
 
-        /** The library has no bits of floats here: doubling is exact until the 24 bits of the mark are a whole number. */
+        /** The library here has no bits of floats; doubling is exact, until the 24 bits are a whole number. */
         int markAsBits() {
             if (mark <= 0f) {
                 return 0;

@@ -1,6 +1,6 @@
 /** All promises: long runs of mixed calls, each answer compared with the model's, and the whole state now and then. */
 public final class ModelTest {
-    private static final int RUNS = 1500;
+    private static final int RUNS = 900;
     private static final int CALLS = 512;
 
     private final Due due;
@@ -33,6 +33,9 @@ public final class ModelTest {
         typing = "";
         x = new VineyardBlends();
         model = new Model();
+        if (style == 5) {
+            fillWithGrains();
+        }
         while (calls < CALLS) {
             if (pick(40) == 0) {
                 lookAtAll();
@@ -40,6 +43,38 @@ public final class ModelTest {
                 call();
             }
         }
+    }
+
+    /** 200 grains can only be reached by blends of the same grains again and again. */
+    private void fillWithGrains() {
+        due("set", x.set(0, 0), model.set(0, 0));
+        for (int round = 0; round < 3; round++) {
+            for (int i = 0; i < 6; i++) {
+                bringIntoRecipe();
+            }
+            due("blend", x.blend(600, 1), model.blend(600, 1));
+        }
+        for (int lot : new int[] {6, 13, 20}) {
+            due("recipe", x.recipe(lot, 6), model.recipe(lot, 6));
+        }
+        bringIntoRecipe();
+        bringIntoRecipe();
+        due("blend", x.blend(2000, 1), model.blend(2000, 1));
+        due("recipe", x.recipe(23, 1), model.recipe(23, 1));
+        for (int i = 0; i < 9; i++) {
+            int litres = 150 + pick(50);
+            int kind = i < 5 ? 1 : 0;
+            due("blend", x.blend(litres, kind), model.blend(litres, kind));
+        }
+    }
+
+    private void bringIntoRecipe() {
+        int lot = model.count(6);
+        int origin = pick(8);
+        int year = 2000 + pick(64);
+        int variety = pick(10);
+        due("bring", x.bring(100, origin, year, variety, 1000, lot), model.bring(100, origin, year, variety, 1000, lot));
+        due("recipe", x.recipe(lot, 1), model.recipe(lot, 1));
     }
 
     /** A fixed sequence, so that a failing run can be run again. */
@@ -320,7 +355,13 @@ public final class ModelTest {
         for (int what = 0; what < 9 && calls < CALLS; what++) {
             due("lot(" + lot + ", " + what + ")", x.lot(lot, what), model.lot(lot, what));
         }
-        for (int grain = 0; grain < 6 && calls < CALLS; grain++) {
+        due("bits(" + lot + ")", x.bits(lot), model.bits(lot));
+        for (int what = 0; what < 3 && calls < CALLS; what++) {
+            int value = model.grain(lot, pick(3), what);
+            due("share(" + lot + ", " + what + ", " + value + ")", x.share(lot, what, value), model.share(lot, what, value));
+        }
+        int first = pick(2) == 0 ? 0 : Math.max(0, model.lot(lot, 1) - 6);
+        for (int grain = first; grain < first + 6 && calls < CALLS; grain++) {
             for (int what = 0; what < 4 && calls < CALLS; what++) {
                 due("grain(" + lot + ", " + grain + ", " + what + ")", x.grain(lot, grain, what), model.grain(lot, grain, what));
             }
