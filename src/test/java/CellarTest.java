@@ -290,16 +290,14 @@ public final class CellarTest {
         due.is("undo is no change", x.count(12), 0);
     }
 
+    /** Each change stands on a cellar that is undone to its beginning. */
     private static void everyChangeIsAState(Due due) {
         VineyardBlends x = new VineyardBlends();
         Due.text(x, "acid least 0;");
-        x.bring(10, 0, 2000, 0, 0, 0);
-        x.undo();
         for (int change = 0; change < 11; change++) {
             while (x.count(12) > 0) {
                 x.undo();
             }
-            // undone at the start of the next turn, so each change stands on the same cellar
             int states = prepare(x, change);
             due.is("change " + change, change(x, change) >= 0 ? 1 : 0, 1);
             due.is("states by change " + change, x.count(12), states + 1);

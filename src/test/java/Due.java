@@ -45,19 +45,19 @@ final class Due {
         int grain = 0;
         for (int round = 0; round < 3; round++) {
             for (int i = 0; i < 6; i++) {
-                intoRecipe(x, x.bring(100, grain % 8, 2000 + grain, grain % 10, 1000, 50));
+                x.recipe(x.bring(100, grain % 8, 2000 + grain, grain % 10, 1000, 50), 1);
                 grain++;
             }
             x.blend(600, 1);
         }
         for (int number : new int[] {6, 13, 20}) {
-            intoRecipe(x, number, 6);
+            x.recipe(number, 6);
         }
         for (int i = 0; i < 2; i++) {
-            intoRecipe(x, x.bring(100, grain % 8, 2000 + grain, grain % 10, 1000, 50));
+            x.recipe(x.bring(100, grain % 8, 2000 + grain, grain % 10, 1000, 50), 1);
             grain++;
         }
-        intoRecipe(x, x.blend(2000, 1));
+        x.recipe(x.blend(2000, 1), 1);
         for (int i = 0; i < 5; i++) {
             x.blend(200, 1);
         }
@@ -65,13 +65,5 @@ final class Due {
             x.blend(200, 0);
         }
         return x;
-    }
-
-    private static void intoRecipe(VineyardBlends x, int number) {
-        intoRecipe(x, number, 1);
-    }
-
-    private static void intoRecipe(VineyardBlends x, int number, int parts) {
-        x.recipe(number, parts);
     }
 }

@@ -96,7 +96,7 @@ public final class PanelTest {
         due.is("no span", x.panel(0, 2), 2 + 4 + 8 + 16);
         due.is("the middle alone", x.panel(0, 1), 1);
         x.score(0, 7, 0);
-        due.is("the last taster", x.panel(0, 2), 1 + 4 + 8 + 16 + 128 - 2 * 0);
+        due.is("the last taster", x.panel(0, 2), 1 + 4 + 8 + 16 + 128);
         due.is("the middle", x.panel(0, 0), 60);
         x.set(1, 200);
         due.is("the widest span", x.panel(0, 2), 0);
