@@ -177,13 +177,13 @@ public final class BlendsTest {
         int states = x.count(12);
         due.is("11 of a lot of 10", x.blend(22, 0), -2);
         due.is("11 of a lot of 10, with the greater remainder", x.blend(21, 0), -2);
-        Due.rules(x, "origin 1 least 51;");
+        Cellars.rules(x, "origin 1 least 51;");
         due.is("a rule is broken", x.blend(20, 0), -2);
         x.dropRule(0);
-        Due.rules(x, "alcohol most 1099;");
+        Cellars.rules(x, "alcohol most 1099;");
         due.is("a rule is broken", x.blend(20, 0), -2);
         x.dropRule(0);
-        Due.rules(x, "alcohol most 1100;origin 1 least 50;");
+        Cellars.rules(x, "alcohol most 1100;origin 1 least 50;");
         due.is("errors are no states", x.count(12), Math.min(4, states + 5));
         due.is("no rule is broken", x.blend(20, 0), 2);
         due.is("states", x.count(12), 4);
@@ -225,15 +225,16 @@ public final class BlendsTest {
     }
 
     private static void blendAndGrains(Due due) {
-        VineyardBlends x = Due.fullOfGrains();
+        VineyardBlends x = Cellars.fullOfGrains();
         int last = x.count(6) - 1;
+        x.recipe(23, 1);
         due.is("one lot in the recipe", x.count(5), 1);
         due.is("10 lots", x.count(0), 10);
         due.is("220 grains would be too many", x.blend(100, 0), -3);
         due.is("nothing changes", x.count(3), 200);
         due.is("one grain less does not help", x.ifBlend(1, 1), 1);
         due.is("1 litre would make 201 grains", x.blend(1, 0), -3);
-        x.recipe(x.count(6) - 10, 0);
+        x.recipe(23, 0);
         x.recipe(last, 1);
         due.is("all of a lot", x.ifBlend(200, 1), 20);
         due.is("200 grains as before", x.blend(200, 0), last + 1);
@@ -260,7 +261,7 @@ public final class BlendsTest {
         x.recipe(0, 1);
         x.recipe(1, 2);
         x.recipe(2, 1);
-        Due.rules(x, "origin 1 least 50;origin 1 most 50;alcohol least 1175;alcohol least 1176;acid most 20;sugar most 25;");
+        Cellars.rules(x, "origin 1 least 50;origin 1 most 50;alcohol least 1175;alcohol least 1176;acid most 20;sugar most 25;");
         int states = x.count(12);
         int[] all = {38, 2, 1175, 21, 25, 8 + 16, 2, 3};
         for (int what = 0; what < all.length; what++) {
@@ -291,7 +292,7 @@ public final class BlendsTest {
         x.recipe(2, 2);
         due.is("10 would need 2 of the last lot", x.ifBlend(10, 0), -2);
         due.is("11 need 5, 5 and 1", x.mostLitres(), 11);
-        due.is("rules are not looked at", Due.rules(x, "origin 0 most 0;"), 1);
+        due.is("rules are not looked at", Cellars.rules(x, "origin 0 most 0;"), 1);
         due.is("11 need 5, 5 and 1", x.mostLitres(), 11);
         x.recipe(2, 0);
         due.is("10 of two", x.mostLitres(), 10);

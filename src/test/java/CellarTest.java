@@ -151,7 +151,7 @@ public final class CellarTest {
         x.recipe(0, 1);
         x.recipe(1, 3);
         x.blend(4, 0);
-        Due.rules(x, "origin 0 most 25;");
+        Cellars.rules(x, "origin 0 most 25;");
         due.is("the rule is kept", x.lot(2, 6), 0);
         due.is("so it is bottled", x.bottle(2, 1, 100), 1);
         due.is("1 of 3 litres is of origin 0", x.share(2, 0, 0), 33);
@@ -250,7 +250,7 @@ public final class CellarTest {
         x.score(4, 0, 10);
         x.bottle(4, 10, 10);
         x.score(3, 1, 10);
-        Due.rules(x, "acid least 0;acid least 1;");
+        Cellars.rules(x, "acid least 0;acid least 1;");
         int[] all = {5, 2, 3, 7, 2, 3, 6, 10, 40, 5, 0, 1, 4, 26};
         for (int what = 0; what < all.length; what++) {
             due.is("count(" + what + ")", x.count(what), all[what]);
@@ -275,7 +275,7 @@ public final class CellarTest {
         due.is("lots", x.count(0), 2);
         due.is("a new lot", x.bring(1, 0, 2000, 0, 0, 0), 2);
         due.is("states", x.count(12), 1);
-        Due.text(x, "abc");
+        Cellars.text(x, "abc");
         due.is("undo", x.undo(), 0);
         due.is("the text stays", x.count(13), 3);
         x.sweeten(0, 1);
@@ -293,7 +293,7 @@ public final class CellarTest {
     /** Each change stands on a cellar that is undone to its beginning. */
     private static void everyChangeIsAState(Due due) {
         VineyardBlends x = new VineyardBlends();
-        Due.text(x, "acid least 0;");
+        Cellars.text(x, "acid least 0;");
         for (int change = 0; change < 11; change++) {
             while (x.count(12) > 0) {
                 x.undo();
@@ -349,7 +349,7 @@ public final class CellarTest {
         VineyardBlends x = new VineyardBlends();
         x.bring(10, 0, 2000, 0, 0, 0);
         x.recipe(0, 1);
-        Due.text(x, "acid");
+        Cellars.text(x, "acid");
         int states = x.count(12);
         due.is("read", x.read(), -2);
         due.is("dropRule", x.dropRule(0), -4);

@@ -1,69 +1,87 @@
+import java.util.function.IntToLongFunction;
+
 /** Counts and prints the answers that are not the ones that are due. */
 final class Due {
-    private final String promise;
+    private final String test;
+    private final Document document = new Document();
+    private String about;
     private int looked = 0;
+    private int lookedBefore = 0;
     private int wrong = 0;
+    private int sentences = 0;
 
     Due(String name) {
-        promise = name;
+        test = name;
+        about = name;
+    }
+
+    /** The answers from here on are about a sentence that stands under the heading of its promise. */
+    void sentence(String promise, String words) {
+        sentence(promise, promise, words);
+    }
+
+    /** The answers from here on are about a sentence of a promise that stands under another heading. */
+    void sentence(String promise, String heading, String words) {
+        sentenceHasAnswers();
+        about = promise + ", '" + words + "'";
+        lookedBefore = looked;
+        sentences++;
+        if (!document.says(heading, words)) {
+            fault("does not stand in the document under '" + heading + "'");
+        }
+    }
+
+    private void sentenceHasAnswers() {
+        if (sentences > 0 && looked == lookedBefore) {
+            fault("is not tested");
+        }
+    }
+
+    private void fault(String what) {
+        wrong++;
+        System.out.println(about + ": " + what);
     }
 
     void is(String call, long got, long want) {
         looked++;
         if (got != want) {
-            wrong++;
-            System.out.println(promise + ": " + call + " answered " + got + ", due is " + want);
+            fault(call + " answered " + got + ", due is " + want);
         }
+    }
+
+    void is(String what, String got, String want) {
+        looked++;
+        if (!got.equals(want)) {
+            fault(what + " is\n  " + got + "\ndue is\n  " + want);
+        }
+    }
+
+    /** Both ends of a range are taken, and what lies beyond them is not; the call makes its own cellar. */
+    void range(String call, int least, long atLeast, int greatest, long atGreatest, IntToLongFunction answer) {
+        is(call + " with " + least, answer.applyAsLong(least), atLeast);
+        is(call + " with " + greatest, answer.applyAsLong(greatest), atGreatest);
+        for (int beyond : new int[] {least - 1, greatest + 1, Integer.MIN_VALUE, Integer.MAX_VALUE}) {
+            is(call + " with " + beyond, answer.applyAsLong(beyond), -1);
+        }
+    }
+
+    /** In a cellar with lot 0 alone, where lot 1 is gone and no lot 2 has come. */
+    void lotNumber(String call, long ofLot, IntToLongFunction answer) {
+        is(call + " of lot 0", answer.applyAsLong(0), ofLot);
+        is(call + " of a lot that is gone", answer.applyAsLong(1), -4);
+        is(call + " of a lot that has not come yet", answer.applyAsLong(2), -4);
+        is(call + " of the greatest number", answer.applyAsLong(Integer.MAX_VALUE), -4);
+        is(call + " of -1", answer.applyAsLong(-1), -1);
+        is(call + " of the least number", answer.applyAsLong(Integer.MIN_VALUE), -1);
     }
 
     /** Ends the test: with exit code 1 if an answer was wrong, or if nothing was looked at. */
     void end() {
-        System.out.println(promise + ": " + looked + " answers, " + wrong + " of them wrong");
+        sentenceHasAnswers();
+        String said = sentences > 0 ? sentences + " sentences, " : "";
+        System.out.println(test + ": " + said + looked + " answers, " + wrong + " faults");
         if (wrong != 0 || looked == 0) {
             System.exit(1);
         }
-    }
-
-    /** Empties the text and types another one, as far as it goes. */
-    static void text(VineyardBlends x, String text) {
-        x.clearText();
-        for (int i = 0; i < text.length(); i++) {
-            x.type(text.charAt(i));
-        }
-    }
-
-    /** Types a text and reads it. */
-    static int rules(VineyardBlends x, String text) {
-        text(x, text);
-        return x.read();
-    }
-
-    /** A cellar with ten lots of the same twenty grains, 6 in oak and 4 in steel: 200 grains in all. */
-    static VineyardBlends fullOfGrains() {
-        VineyardBlends x = new VineyardBlends();
-        x.set(0, 0);
-        int grain = 0;
-        for (int round = 0; round < 3; round++) {
-            for (int i = 0; i < 6; i++) {
-                x.recipe(x.bring(100, grain % 8, 2000 + grain, grain % 10, 1000, 50), 1);
-                grain++;
-            }
-            x.blend(600, 1);
-        }
-        for (int number : new int[] {6, 13, 20}) {
-            x.recipe(number, 6);
-        }
-        for (int i = 0; i < 2; i++) {
-            x.recipe(x.bring(100, grain % 8, 2000 + grain, grain % 10, 1000, 50), 1);
-            grain++;
-        }
-        x.recipe(x.blend(2000, 1), 1);
-        for (int i = 0; i < 5; i++) {
-            x.blend(200, 1);
-        }
-        for (int i = 0; i < 4; i++) {
-            x.blend(200, 0);
-        }
-        return x;
     }
 }

@@ -71,7 +71,7 @@ public final class LotsTest {
         due.is("bottled", x.bottle(8, 10, 100), 10);
         due.is("a lot for the one that is gone", x.bring(10, 0, 2000, 0, 0, 0), 12);
 
-        VineyardBlends full = Due.fullOfGrains();
+        VineyardBlends full = Cellars.fullOfGrains();
         due.is("200 grains", full.count(3), 200);
         due.is("10 lots", full.count(0), 10);
         due.is("4 in steel", full.count(1), 4);
@@ -168,7 +168,7 @@ public final class LotsTest {
         x.score(0, 3, 0);
         x.score(0, 7, 200);
         x.recipe(0, 20);
-        Due.rules(x, "origin 1 most 99;acid least 41;sugar most 30;sugar most 29;");
+        Cellars.rules(x, "origin 1 most 99;acid least 41;sugar most 30;sugar most 29;");
         int[] lot = {100, 1, 1100, 40, 30, 1, 1 + 2 + 8, 2, 20};
         for (int i = 0; i < lot.length; i++) {
             due.is("lot(0, " + i + ")", x.lot(0, i), lot[i]);

@@ -1,7 +1,8 @@
 /** All promises: long runs of mixed calls, each answer compared with the model's, and the whole state now and then. */
 public final class ModelTest {
     private static final int RUNS = 900;
-    private static final int CALLS = 512;
+    /** A run goes on until so many calls are made; its last step takes it to 512 at most. */
+    private static final int CALLS = 508;
 
     private final Due due;
     private VineyardBlends x;

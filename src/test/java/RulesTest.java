@@ -32,7 +32,7 @@ public final class RulesTest {
         for (int i = 0; i < EACH.length; i++) {
             VineyardBlends x = new VineyardBlends();
             due.is("no rule", x.rule(0, 0), -4);
-            due.is("read " + EACH[i], Due.rules(x, EACH[i]), 1);
+            due.is("read " + EACH[i], Cellars.rules(x, EACH[i]), 1);
             for (int what = 0; what < 3; what++) {
                 due.is(EACH[i] + " rule(0, " + what + ")", x.rule(0, what), parts[i][what]);
             }
@@ -66,14 +66,14 @@ public final class RulesTest {
         };
         for (String[] pair : pairs) {
             for (int i = 0; i < 2; i++) {
-                Due.rules(x, pair[i]);
+                Cellars.rules(x, pair[i]);
                 due.is(pair[i], x.lot(3, 6), i);
                 x.dropRule(0);
             }
         }
-        due.is("three are read", Due.rules(x, "acid least 61;acid most 60;acid most 59;origin 0 least 1;origin 0 most 0;"), 5);
+        due.is("three are read", Cellars.rules(x, "acid least 61;acid most 60;acid most 59;origin 0 least 1;origin 0 most 0;"), 5);
         due.is("the mask", x.lot(3, 6), 1 + 4 + 8);
-        due.is("seven are there", Due.rules(x, "sugar most 0;sugar most 30;alcohol most 0;"), 3);
+        due.is("seven are there", Cellars.rules(x, "sugar most 0;sugar most 30;alcohol most 0;"), 3);
         due.is("the mask", x.lot(3, 6), 1 + 4 + 8 + 32 + 128);
     }
 
@@ -81,7 +81,7 @@ public final class RulesTest {
         VineyardBlends x = new VineyardBlends();
         due.is("no rule", x.dropRule(0), -4);
         due.is("dropRule(-1)", x.dropRule(-1), -1);
-        Due.rules(x, "origin 1 least 10;acid most 20;year 2000 least 30;sugar most 40;");
+        Cellars.rules(x, "origin 1 least 10;acid most 20;year 2000 least 30;sugar most 40;");
         due.is("dropRule(4)", x.dropRule(4), -4);
         due.is("dropRule(1)", x.dropRule(1), 3);
         int[][] left = {{0, 1, 10}, {2, 2000, 30}, {8, -4, 40}};
@@ -130,14 +130,14 @@ public final class RulesTest {
         due.is("length", x.count(13), 0);
         due.is("no fault", x.fault(0), -4);
         due.is("clearText", x.clearText(), 0);
-        Due.text(x, EACH[0]);
+        Cellars.text(x, EACH[0]);
         due.is("no characters of the old text", x.fault(0), -4);
-        Due.text(x, EACH[0].substring(0, 5));
+        Cellars.text(x, EACH[0].substring(0, 5));
         due.is("but those of the new one", x.fault(1), 1);
     }
 
     private static void faultIs(Due due, VineyardBlends x, String text, int place, int reason) {
-        Due.text(x, text);
+        Cellars.text(x, text);
         int states = x.count(12);
         int rules = x.count(4);
         due.is("place in '" + text + "'", x.fault(0), place);
@@ -160,12 +160,11 @@ public final class RulesTest {
         faultIs(due, x, "origin 0000 least 0000;origin 0007 most 0100;", -4, -4);
         faultIs(due, x, "year 2000 least 100;variety 0 least 0;variety 09 least 05;", -4, -4);
         faultIs(due, x, "alcohol least 0;alcohol most 0;acid least 0;acid most 0;sugar most 0;sugar most 0500;", -4, -4);
-        Due.text(x, "x");
+        Cellars.text(x, "x");
         due.is("fault(2) with a fault", x.fault(2), -1);
     }
 
     private static void wrongWords(Due due) {
-        VineyardBlends x = new VineyardBlends();
         String[] texts = {
             " ", ";", "1", "o", "origi", "originx 1 least 1;", "Origin 1 least 1;", "origins 1 least 1;",
             " origin 1 least 1;", "least 1;", "years 2000 least 1;", "varietyy 1 least 1;", "alcohols least 1;",
@@ -174,12 +173,11 @@ public final class RulesTest {
             "sugar least 5;", "sugar 5;", "sugar leas", "sugar mostly 5;", "origin 1 Least 5;", "year 2000 mos"
         };
         for (String text : texts) {
-            faultIs(due, x, text, 0, 1);
+            faultIs(due, new VineyardBlends(), text, 0, 1);
         }
     }
 
     private static void blanksAndNumbers(Due due) {
-        VineyardBlends x = new VineyardBlends();
         String[] texts = {
             "origin", "origin;", "origin1 least 1;", "origin ", "origin  1 least 1;", "origin least 1;", "origin x",
             "origin 1", "origin 1least 1;", "origin 1;", "origin 00001 least 1;", "origin 1 least", "origin 1 least;",
@@ -189,12 +187,11 @@ public final class RulesTest {
             "origin 12345 least 1;", "origin -1 least 1;"
         };
         for (String text : texts) {
-            faultIs(due, x, text, 0, 2);
+            faultIs(due, new VineyardBlends(), text, 0, 2);
         }
     }
 
     private static void ranges(Due due) {
-        VineyardBlends x = new VineyardBlends();
         String[] texts = {
             "origin 8 least 1;", "origin 7 least 101;", "origin 8 most 101;", "origin 0 most 9999;", "year 1999 least 1;",
             "year 2064 least 1;", "year 0 least 1;", "year 2000 least 101;", "variety 10 least 1;", "variety 9 least 101;",
@@ -202,18 +199,17 @@ public final class RulesTest {
             "sugar most 9999;"
         };
         for (String text : texts) {
-            faultIs(due, x, text, 0, 3);
+            faultIs(due, new VineyardBlends(), text, 0, 3);
         }
     }
 
     private static void semicolons(Due due) {
-        VineyardBlends x = new VineyardBlends();
         String[] texts = {
             "origin 1 least 1", "origin 1 least 1 ;", "origin 1 least 1x;", "origin 1 least 1:", "acid most 5",
             "acid most 00005;", "sugar most 5000000;", "alcohol least 12345;", "origin 9 least 999", "acid most 300"
         };
         for (String text : texts) {
-            faultIs(due, x, text, 0, 4);
+            faultIs(due, new VineyardBlends(), text, 0, 4);
         }
     }
 
@@ -224,7 +220,7 @@ public final class RulesTest {
         faultIs(due, x, "origin 1 least 5;origin 1 most 5;origin 2 least 5;origin 1 least 6;", -4, -4);
         faultIs(due, x, "alcohol least 5;acid least 5;alcohol most 5;acid most 5;sugar most 5;", -4, -4);
         faultIs(due, x, "year 2001 least 5;variety 1 least 5;year 2001 least 5;", 36, 5);
-        due.is("read", Due.rules(x, "origin 1 least 5;sugar most 7;"), 2);
+        due.is("read", Cellars.rules(x, "origin 1 least 5;sugar most 7;"), 2);
         due.is("fault(0)", x.fault(0), 0);
         due.is("fault(1)", x.fault(1), 5);
         due.is("read again", x.read(), -2);
@@ -236,19 +232,25 @@ public final class RulesTest {
         faultIs(due, x, "acid most 5;sugar most 7;", 12, 5);
     }
 
-    private static void tooMany(Due due) {
+    private static VineyardBlends withRules(String text) {
         VineyardBlends x = new VineyardBlends();
+        Cellars.rules(x, text);
+        return x;
+    }
+
+    private static void tooMany(Due due) {
         String eight = "acid most 1;acid most 2;acid most 3;acid most 4;acid most 5;acid most 6;acid most 7;acid most 8;";
-        faultIs(due, x, eight, -4, -4);
-        faultIs(due, x, eight + "acid", 96, 2);
-        due.is("one", Due.rules(x, "sugar most 1;"), 1);
-        faultIs(due, x, eight, 84, 6);
-        faultIs(due, x, eight.substring(0, 84), -4, -4);
-        faultIs(due, x, eight.substring(0, 84) + "acid most 999;", 84, 3);
-        faultIs(due, x, eight.substring(0, 84) + "acid most 7;", 84, 5);
-        faultIs(due, x, eight.substring(0, 84) + "sugar most 1;", 84, 5);
-        faultIs(due, x, eight.substring(0, 84) + "acid most 9", 84, 4);
-        due.is("seven more", Due.rules(x, eight.substring(0, 84)), 7);
+        String seven = eight.substring(0, 84);
+        faultIs(due, withRules(""), eight, -4, -4);
+        faultIs(due, withRules(""), eight + "acid", 96, 2);
+        faultIs(due, withRules("sugar most 1;"), eight, 84, 6);
+        faultIs(due, withRules("sugar most 1;"), seven, -4, -4);
+        faultIs(due, withRules("sugar most 1;"), seven + "acid most 999;", 84, 3);
+        faultIs(due, withRules("sugar most 1;"), seven + "acid most 7;", 84, 5);
+        faultIs(due, withRules("sugar most 1;"), seven + "sugar most 1;", 84, 5);
+        faultIs(due, withRules("sugar most 1;"), seven + "acid most 9", 84, 4);
+        VineyardBlends x = withRules("sugar most 1;");
+        due.is("seven more", Cellars.rules(x, seven), 7);
         due.is("rules", x.count(4), 8);
         faultIs(due, x, "sugar most 2;", 0, 6);
         faultIs(due, x, "sugar most 1;", 0, 5);
@@ -278,9 +280,9 @@ public final class RulesTest {
         VineyardBlends x = new VineyardBlends();
         due.is("no text", x.read(), 0);
         due.is("is a change", x.count(12), 1);
-        due.is("read", Due.rules(x, "sugar most 7;origin 1 least 5;"), 2);
+        due.is("read", Cellars.rules(x, "sugar most 7;origin 1 least 5;"), 2);
         due.is("the text stays", x.count(13), 30);
-        due.is("read", Due.rules(x, "year 2010 least 5;"), 1);
+        due.is("read", Cellars.rules(x, "year 2010 least 5;"), 1);
         due.is("rules", x.count(4), 3);
         due.is("behind those that there are", x.rule(2, 0), 2);
         due.is("rule(0, 0)", x.rule(0, 0), 8);

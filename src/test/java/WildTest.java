@@ -12,12 +12,17 @@ public final class WildTest {
         WildTest test = new WildTest();
         for (int run = 0; run < 50; run++) {
             VineyardBlends x = new VineyardBlends();
-            for (int call = 0; call < 2000; call++) {
-                test.call(x);
-            }
+            test.calls(x, 200);
             due.is("litres of run " + run, x.account(0), x.account(1) + x.account(2) + x.account(3) + x.account(4));
+            test.calls(x, 1500);
         }
         due.end();
+    }
+
+    private void calls(VineyardBlends x, int many) {
+        for (int call = 0; call < many; call++) {
+            call(x);
+        }
     }
 
     private int pick(int many) {
@@ -59,7 +64,7 @@ public final class WildTest {
             case 24: if (pick(9) == 0) { x.clearText(); } break;
             case 25: x.fault(any()); break;
             case 26: x.read(); break;
-            case 27: Due.rules(x, "alcohol least " + pick(9) + ";"); break;
+            case 27: Cellars.rules(x, "alcohol least " + pick(9) + ";"); break;
             default: x.bring(1 + pick(500), pick(8), 2000 + pick(64), pick(10), pick(2000), pick(200));
         }
     }

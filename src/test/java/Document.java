@@ -1,0 +1,42 @@
+import java.io.IOException;
+import java.nio.file.Files;
+import java.nio.file.Path;
+import java.util.HashMap;
+import java.util.Map;
+
+/** The document's parts by their headings, to see that the sentences which tests name stand in it. */
+final class Document {
+    private final Map<String, String> parts = new HashMap<>();
+
+    Document() {
+        String heading = "";
+        StringBuilder part = new StringBuilder();
+        for (String line : lines()) {
+            if (line.startsWith("#")) {
+                parts.put(heading, plain(part.toString()));
+                heading = plain(line).replaceFirst("^#+ ", "").replaceFirst(":.*", "");
+                part.setLength(0);
+            } else {
+                part.append(line).append(' ');
+            }
+        }
+        parts.put(heading, plain(part.toString()));
+    }
+
+    boolean says(String heading, String words) {
+        return parts.getOrDefault(heading, "").contains(plain(words));
+    }
+
+    private static Iterable<String> lines() {
+        try {
+            return Files.readAllLines(Path.of("..", "shared", "DOC.md"));
+        } catch (IOException e) {
+            throw new IllegalStateException("tests run in the project's own directory, next to ../shared", e);
+        }
+    }
+
+    /** Without signs of code, and with one blank between words. */
+    private static String plain(String text) {
+        return text.replace("`", "").replaceAll("\\s+", " ").trim();
+    }
+}
