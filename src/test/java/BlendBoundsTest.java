@@ -111,6 +111,14 @@ public final class BlendBoundsTest {
         due.is("no parts", x.lot(0, 8), 0);
         due.is("0 for one that is not in it", x.recipe(1, 0), 0);
 
+        due.sentence("Promise 9", "Returns how many lots the recipe has then");
+        VineyardBlends many = Cellars.withLots(6);
+        for (int lot = 0; lot < 6; lot++) {
+            due.is("in", many.recipe(lot, 1), lot + 1);
+        }
+        for (int lot = 0; lot < 6; lot++) {
+            due.is("out", many.recipe(lot, 0), 5 - lot);
+        }
         due.sentence("Promise 9", "LIMIT_REACHED if the recipe would have 7 lots");
         VineyardBlends full = Cellars.fullOfLots();
         for (int i = 0; i < 6; i++) {
@@ -160,6 +168,15 @@ public final class BlendBoundsTest {
         due.range("blend(?, 1)", 1, 1, 10000, 1, v -> simple().blend(v, 1));
         due.sentence("Promise 10", "kind: 0 for steel, 1 for oak");
         due.range("blend(5, ?)", 0, 1, 1, 1, v -> simple().blend(5, v));
+        due.sentence("Promise 10", "Blends", "A blend of L litres (1 to 10000) shares L by the parts");
+        shares(due, 1, new int[] {20, 20, 20, 20, 20, 20}, 1, 0, 0, 0, 0, 0);
+        shares(due, 6, new int[] {1, 2, 3}, 1, 2, 3);
+        shares(due, 10000, new int[] {20, 20, 20, 20, 20, 20}, 1667, 1667, 1667, 1667, 1666, 1666);
+        due.sentence("Promise 10", "Returns the number of the new lot");
+        VineyardBlends numbers = simple();
+        for (int next = 1; next <= 5; next++) {
+            due.is("blend", numbers.blend(1, 0), next);
+        }
         due.sentence("Promise 10", "Blends", "The blend becomes a new lot, in steel or in oak.");
         VineyardBlends x = simple();
         due.is("in steel", x.blend(5, 0), 1);

@@ -111,6 +111,13 @@ public final class CellarBoundsTest {
         due.range("bottle(0, ?, 100)", 1, 1, 10000, 10000, v -> one(10000).bottle(0, v, 100));
         due.sentence("Promise 18", "size: 10 to 300");
         due.range("bottle(0, 30, ?)", 10, 300, 300, 10, v -> one(10000).bottle(0, 30, v));
+        due.sentence("Promise 18", "Returns the full bottles that are not broken");
+        VineyardBlends broken = one(10000);
+        broken.set(3, 2);
+        due.is("none of none", broken.bottle(0, 1, 101), 0);
+        due.is("1 of 1", broken.bottle(0, 1, 100), 1);
+        due.is("1 of 2", broken.bottle(0, 2, 100), 1);
+        due.is("2 of 3", broken.bottle(0, 3, 100), 2);
         due.sentence("Promise 18", "Panel", "A run bottles litres of a lot, taken from it, in bottles of a size (10 to 300 centilitres)");
         VineyardBlends x = one(10000);
         x.bottle(0, 9999, 10);
@@ -262,7 +269,7 @@ public final class CellarBoundsTest {
     }
 
     private static void accounts(Due due) {
-        due.sentence("Promise 20", "Accounts", "(0 is the sum of 1 to 4)");
+        due.sentence("Promise 20", "What it is", "litres add up with all losses");
         VineyardBlends x = new VineyardBlends();
         x.set(0, 100);
         x.set(2, 100);

@@ -21,6 +21,8 @@ public final class ErrorsTest {
         test.errorsOfBlends();
         test.errorsOfTheRest();
         test.errorsOfFullCellars();
+        test.refusedByLots();
+        test.refusedByTheRest();
         test.lotNumbers();
         test.changes();
         test.questions();
@@ -250,6 +252,75 @@ public final class ErrorsTest {
         due.is("state behind it", countsAndAccounts(grains), before);
         due.is("litres of its lot", grains.lot(30, 0), 200);
         due.is("its first grain", grains.grain(30, 0, 3), 10);
+    }
+
+    private void refusedByLots() {
+        String outOfRange = "INVALID_ARGUMENT if an argument is out of range";
+        String orNotFound = "INVALID_ARGUMENT if an argument is out of range; NOT_FOUND.";
+        due.sentence("Promise 2", outOfRange);
+        error("bring(-1, -1, ..)", -1, x -> x.bring(-1, -1, -1, -1, -1, -1));
+        error("bring of the greatest", -1, x -> x.bring(10001, 8, 2064, 10, 2001, 201));
+        due.sentence("Promise 3", orNotFound);
+        error("sweeten(-1, -1)", -1, x -> x.sweeten(-1, -1));
+        error("sweeten(4, 500)", -4, x -> x.sweeten(4, 500));
+        due.sentence("Promise 4", "INVALID_ARGUMENT if an argument is out of range; NOT_FOUND; NOT_POSSIBLE if it is there already");
+        error("move(-1, -1)", -1, x -> x.move(-1, -1));
+        error("move(4, 1)", -4, x -> x.move(4, 1));
+        error("move(3, 0)", -2, x -> x.move(3, 0));
+        due.sentence("Promise 5", orNotFound);
+        error("lot(-1, -1)", -1, x -> x.lot(-1, -1));
+        error("lot(4, 8)", -4, x -> x.lot(4, 8));
+        due.sentence("Promise 7", orNotFound);
+        error("share(-1, -1, -1)", -1, x -> x.share(-1, -1, -1));
+        error("share(4, 2, 9)", -4, x -> x.share(4, 2, 9));
+        due.sentence("Promise 8", "INVALID_ARGUMENT if lot is negative; NOT_FOUND.");
+        error("bits(MIN)", -1, x -> (int) x.bits(Integer.MIN_VALUE));
+        error("bits(4)", -4, x -> (int) x.bits(4));
+        due.sentence("Promise 9", "INVALID_ARGUMENT if an argument is out of range; NOT_FOUND; LIMIT_REACHED if the recipe would have 7 lots.");
+        error("recipe(-1, -1)", -1, x -> x.recipe(-1, -1));
+        error("recipe(4, 20)", -4, x -> x.recipe(4, 20));
+        due.sentence("Promise 10", outOfRange);
+        error("blend(-1, -1)", -1, x -> x.blend(-1, -1));
+        error("blend(10001, 2)", -1, x -> x.blend(10001, 2));
+        due.sentence("Promise 11", outOfRange);
+        error("ifBlend(-1, -1)", -1, x -> x.ifBlend(-1, -1));
+        error("ifBlend(10001, 8)", -1, x -> x.ifBlend(10001, 8));
+        due.sentence("Promise 12", "NOT_FOUND if there is none.");
+        for (int parts = 1; parts <= 20; parts++) {
+            VineyardBlends least = new VineyardBlends();
+            for (int lot = 0; lot < 6; lot++) {
+                least.bring(1, 0, 2000, 0, 0, 0);
+                least.recipe(lot, lot == 0 ? parts : 1 + lot);
+            }
+            due.is("1 litre can always be taken", least.mostLitres() >= 1 ? 1 : 0, 1);
+        }
+    }
+
+    private void refusedByTheRest() {
+        String outOfRange = "INVALID_ARGUMENT if an argument is out of range";
+        String orNotFound = "INVALID_ARGUMENT if an argument is out of range; NOT_FOUND.";
+        due.sentence("Promise 14", orNotFound);
+        error("score(-1, -1, -2)", -1, x -> x.score(-1, -1, -2));
+        error("score(4, 7, -1)", -4, x -> x.score(4, 7, -1));
+        due.sentence("Promise 15", outOfRange);
+        error("panel(-1, -1)", -1, x -> x.panel(-1, -1));
+        due.sentence("Promise 17", "INVALID_ARGUMENT if months is out of range.");
+        error("months(-1)", -1, x -> x.months(-1));
+        due.sentence("Promise 18", "INVALID_ARGUMENT if an argument is out of range; NOT_FOUND");
+        error("bottle(-1, -1, -1)", -1, x -> x.bottle(-1, -1, -1));
+        error("bottle(2, 10001, 10)", -1, x -> x.bottle(2, 10001, 10));
+        error("bottle(4, 10000, 300)", -4, x -> x.bottle(4, 10000, 300));
+        due.sentence("Promise 19", outOfRange);
+        error("set(-1, -1)", -1, x -> x.set(-1, -1));
+        error("set(4, 1001)", -1, x -> x.set(4, 1001));
+        due.sentence("Promise 20", "INVALID_ARGUMENT if what is out of range.");
+        error("account(-1)", -1, x -> x.account(-1));
+        due.sentence("Promise 21", "INVALID_ARGUMENT if what is out of range.");
+        error("count(-1)", -1, x -> x.count(-1));
+        due.sentence("Promise 25", "INVALID_ARGUMENT if character is out of range");
+        error("type(-1)", -1, x -> x.type(-1));
+        due.sentence("Promise 27", "INVALID_ARGUMENT if what is out of range");
+        error("fault(-1)", -1, x -> x.fault(-1));
     }
 
     private static String countsAndAccounts(VineyardBlends x) {

@@ -20,6 +20,7 @@ public final class RuleBoundsTest {
         type(due);
         clearText(due);
         fault(due);
+        forms(due);
         words(due);
         blanksAndNumbers(due);
         digits(due);
@@ -56,7 +57,9 @@ public final class RuleBoundsTest {
         due.is("in its place", x.read(), 1);
         due.is("the last number", x.rule(7, 2), 9);
 
-        due.sentence("Promise 23", "Rules", "(p from 0 to 100; n in the range of the measure)");
+        due.sentence("Promise 23", "Rules", "0 origin o least p 1 origin o most p 2 year y least p 3 variety v least p "
+                + "(p from 0 to 100; n in the range of the measure) "
+                + "4 alcohol least n 5 alcohol most n 6 acid least n 7 acid most n 8 sugar most n");
         for (int kind = 0; kind < 9; kind++) {
             VineyardBlends each = withRules(KINDS[kind]);
             for (int what = 0; what < 3; what++) {
@@ -193,7 +196,7 @@ public final class RuleBoundsTest {
             due.is("type(59)", x.type(59), length);
         }
         due.is("its length", x.count(13), 100);
-        due.sentence("Promise 25", "LIMIT_REACHED if the text has 100 characters");
+        due.sentence("Promise 25", "Returns the length of the text; INVALID_ARGUMENT if character is out of range; LIMIT_REACHED if the text has 100 characters.");
         due.is("one more", x.type(59), -3);
         due.is("its length", x.count(13), 100);
         x.clearText();
@@ -265,6 +268,25 @@ public final class RuleBoundsTest {
         faultIs(due, "", EIGHT + "acid", 96, 2);
         faultIs(due, "acid most 8;", EIGHT, 84, 5);
         faultIs(due, "sugar most 8;", EIGHT, 84, 6);
+    }
+
+    private static void forms(Due due) {
+        due.sentence("Promise 28", "Texts", "\"origin\", a number, \"least\" or \"most\", a percent");
+        noFault(due, "origin 3 least 50;origin 3 most 60;");
+        faultIs(due, "origin 3 50;", 1);
+        faultIs(due, "origin least 50;", 2);
+        due.sentence("Promise 28", "Texts", "\"year\" or \"variety\", a number, \"least\", a percent");
+        noFault(due, "year 2030 least 50;variety 3 least 50;");
+        faultIs(due, "year 2030 most 50;", 1);
+        faultIs(due, "variety 3 most 50;", 1);
+        due.sentence("Promise 28", "Texts", "\"alcohol\" or \"acid\", \"least\" or \"most\", a number");
+        noFault(due, "alcohol least 900;alcohol most 1900;acid least 20;acid most 90;");
+        faultIs(due, "alcohol 3 least 900;", 1);
+        faultIs(due, "acid 3 most 90;", 1);
+        due.sentence("Promise 28", "Texts", "\"sugar\", \"most\", a number");
+        noFault(due, "sugar most 300;");
+        faultIs(due, "sugar least 300;", 1);
+        faultIs(due, "sugar 3 most 300;", 1);
     }
 
     private static void words(Due due) {
