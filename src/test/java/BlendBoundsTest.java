@@ -62,6 +62,9 @@ public final class BlendBoundsTest {
         shares(due, 5, new int[] {20, 20, 20, 20, 20, 20}, 1, 1, 1, 1, 1, 0);
         shares(due, 7, new int[] {1, 1, 1, 1, 1, 1}, 2, 1, 1, 1, 1, 1);
         shares(due, 9999, new int[] {1, 1}, 5000, 4999);
+        shares(due, 3, new int[] {1, 1, 3}, 1, 0, 2);
+        shares(due, 8, new int[] {1, 1, 3}, 2, 1, 5);
+        shares(due, 5, new int[] {1, 1, 6}, 1, 0, 4);
     }
 
     private static void sharingByGrains(Due due) {

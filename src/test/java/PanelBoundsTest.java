@@ -121,6 +121,13 @@ public final class PanelBoundsTest {
         due.is("a single score", scored(0, 200).panel(0, 1), 1);
         due.is("all but the middle", scored(0, 8, 7, 6, 5, 4, 3, 2, 1).panel(0, 2), 255 - 16);
         due.is("the initial span is 40", withSpan().panel(0, 2), 2);
+        VineyardBlends two = withSpan();
+        two.bring(1, 0, 2000, 0, 0, 0);
+        two.score(1, 1, 141);
+        due.is("outliers of lot 0", two.panel(0, 2), 2);
+        due.is("none of lot 1", two.panel(1, 2), 0);
+        due.is("two of lot 0 are none", two.panel(0, 1), 2);
+        due.is("one of lot 1 is none", two.panel(1, 1), 1);
     }
 
     private static VineyardBlends withSpan() {

@@ -385,6 +385,8 @@ public final class RuleBoundsTest {
             faultIs(due, text, text, 0, 5);
         }
         faultIs(due, "", "sugar most 5;sugar most 005;", 13, 5);
+        faultIs(due, "", "origin 1 least 5;acid most 5;origin 2 least 5;acid most 5;", 46, 5);
+        faultIs(due, "origin 3 most 5;alcohol most 5;", "year 2001 least 5;alcohol most 5;", 18, 5);
         faultIs(due, "sugar most 1;sugar most 5;", "acid most 5;sugar most 5;", 12, 5);
         noFault(due, "origin 1 least 5;origin 1 most 5;origin 2 least 5;origin 1 least 6;");
         noFault(due, "variety 5 least 5;origin 5 least 5;alcohol least 5;acid least 5;alcohol most 5;acid most 5;");
