@@ -55,8 +55,8 @@ public final class VineyardBlends {
 
     private final Cellar now;
     private final History history;
-    private final Trial trial;
     private final Sharing sharing;
+    private final Trial trial;
     private final Panel tasters;
     private final Script script;
     private final Lot arriving;
@@ -64,11 +64,11 @@ public final class VineyardBlends {
     public VineyardBlends() {
         now = new Cellar();
         history = new History();
-        trial = new Trial();
         sharing = new Sharing();
+        trial = new Trial(sharing);
         tasters = new Panel();
         script = new Script();
-        arriving = new Lot();
+        arriving = new Lot(new Row(1), new Row(1));
     }
 
     // ---- lots
@@ -158,7 +158,7 @@ public final class VineyardBlends {
         if (wine == null || grain >= wine.grains) {
             return NOT_FOUND;
         }
-        return what == 3 ? wine.amounts.get(grain) : Topic.at(what).ofGrain(wine.keys.get(grain));
+        return what == 3 ? wine.amount(grain) : Topic.at(what).ofGrain(wine.key(grain));
     }
 
     public int share(int lot, int what, int value) {
@@ -610,14 +610,15 @@ public final class VineyardBlends {
         private final Row parts = new Row(MOST_GRAINS);
         private final Row remainders = new Row(MOST_GRAINS);
 
-        void spread(int litres, Row weights, int length) {
+        /** The weights are so many numbers of the row, from the first one on. */
+        void spread(int litres, Row weights, int first, int length) {
             int sum = 0;
             for (int i = 0; i < length; i++) {
-                sum += weights.get(i);
+                sum += weights.get(first + i);
             }
             int left = litres;
             for (int i = 0; i < length && sum > 0; i++) {
-                int product = litres * weights.get(i);
+                int product = litres * weights.get(first + i);
                 parts.put(i, product / sum);
                 remainders.put(i, product % sum);
                 left -= product / sum;
@@ -667,11 +668,13 @@ public final class VineyardBlends {
         }
     }
 
+    /** The grains of a lot stand side by side in two rows: in its own ones, or in those of all lots of a cellar. */
     private static final class Lot {
-        private final Row keys = new Row(MOST_GRAINS);
-        private final Row amounts = new Row(MOST_GRAINS);
+        private final Row keys;
+        private final Row amounts;
         private final Row scores = new Row(TASTERS);
         private int number;
+        private int first;
         private int grains;
         private int litres;
         private int kind;
@@ -680,8 +683,14 @@ public final class VineyardBlends {
         private int sugar;
         private int parts;
 
+        Lot(Row keys, Row amounts) {
+            this.keys = keys;
+            this.amounts = amounts;
+        }
+
         void clear() {
             number = 0;
+            first = 0;
             grains = 0;
             litres = 0;
             kind = STEEL;
@@ -694,11 +703,11 @@ public final class VineyardBlends {
             }
         }
 
+        /** All but the grains themselves. */
         void copy(Lot from) {
-            keys.copy(from.keys, from.grains);
-            amounts.copy(from.amounts, from.grains);
             scores.copy(from.scores, TASTERS);
             number = from.number;
+            first = from.first;
             grains = from.grains;
             litres = from.litres;
             kind = from.kind;
@@ -708,22 +717,40 @@ public final class VineyardBlends {
             parts = from.parts;
         }
 
-        /** Adds litres of a grain, to the same grain if the lot has it, else at its place in the order. */
+        /** Puts the grains of the lot like this one at a place; its own ones may go down from further up. */
+        void lay(Lot like, int place) {
+            int start = like.first;
+            for (int i = 0; i < like.grains; i++) {
+                keys.put(place + i, like.keys.get(start + i));
+                amounts.put(place + i, like.amounts.get(start + i));
+            }
+            first = place;
+        }
+
+        int key(int grain) {
+            return keys.get(first + grain);
+        }
+
+        int amount(int grain) {
+            return amounts.get(first + grain);
+        }
+
+        /** Only for a lot with rows of its own: adds to the same grain, or puts a new one at its place in the order. */
         void pour(int key, int amount) {
             int place = 0;
-            while (place < grains && keys.get(place) < key) {
+            while (place < grains && key(place) < key) {
                 place++;
             }
-            if (place < grains && keys.get(place) == key) {
-                amounts.add(place, amount);
+            if (place < grains && key(place) == key) {
+                amounts.add(first + place, amount);
             } else {
-                insert(place, key, amount);
+                insert(first + place, key, amount);
             }
             litres += amount;
         }
 
         private void insert(int place, int key, int amount) {
-            for (int i = grains; i > place; i--) {
+            for (int i = first + grains; i > place; i--) {
                 keys.put(i, keys.get(i - 1));
                 amounts.put(i, amounts.get(i - 1));
             }
@@ -733,16 +760,16 @@ public final class VineyardBlends {
         }
 
         void take(int amount, Sharing sharing) {
-            sharing.spread(amount, amounts, grains);
+            sharing.spread(amount, amounts, first, grains);
             lose(sharing.parts);
         }
 
         void takeInto(Lot mix, int amount, Sharing sharing) {
-            sharing.spread(amount, amounts, grains);
+            sharing.spread(amount, amounts, first, grains);
             for (int i = 0; i < grains; i++) {
                 int part = sharing.parts.get(i);
                 if (part > 0) {
-                    mix.pour(keys.get(i), part);
+                    mix.pour(key(i), part);
                 }
             }
             lose(sharing.parts);
@@ -752,10 +779,10 @@ public final class VineyardBlends {
             int kept = 0;
             litres = 0;
             for (int i = 0; i < grains; i++) {
-                int left = amounts.get(i) - lost.get(i);
+                int left = amount(i) - lost.get(i);
                 if (left > 0) {
-                    keys.put(kept, keys.get(i));
-                    amounts.put(kept, left);
+                    keys.put(first + kept, key(i));
+                    amounts.put(first + kept, left);
                     litres += left;
                     kept++;
                 }
@@ -773,8 +800,8 @@ public final class VineyardBlends {
         int shareOf(Topic topic, int value) {
             int with = 0;
             for (int i = 0; i < grains; i++) {
-                if (topic.ofGrain(keys.get(i)) == value) {
-                    with += amounts.get(i);
+                if (topic.ofGrain(key(i)) == value) {
+                    with += amount(i);
                 }
             }
             return litres > 0 ? 100 * with / litres : 0;
@@ -784,7 +811,7 @@ public final class VineyardBlends {
             long years = 0;
             long origins = 0;
             for (int i = 0; i < grains; i++) {
-                int key = keys.get(i);
+                int key = key(i);
                 years |= 1L << (Topic.YEAR.ofGrain(key) - 2000);
                 origins |= 1L << (56 + Topic.ORIGIN.ofGrain(key));
             }
@@ -861,6 +888,8 @@ public final class VineyardBlends {
 
     /** All that a change can change: what the history keeps. */
     private static final class Cellar {
+        private final Row keys = new Row(MOST_GRAINS);
+        private final Row amounts = new Row(MOST_GRAINS);
         private final Lot[] lots;
         private final Rules rules = new Rules();
         private final Row settings = new Row(SETTINGS);
@@ -871,7 +900,7 @@ public final class VineyardBlends {
         Cellar() {
             lots = new Lot[MOST_LOTS];
             for (int i = 0; i < lots.length; i++) {
-                lots[i] = new Lot();
+                lots[i] = new Lot(keys, amounts);
             }
             settings.put(LOSS, 10);
             settings.put(SPAN, 40);
@@ -880,6 +909,8 @@ public final class VineyardBlends {
         }
 
         void copy(Cellar from) {
+            keys.copy(from.keys, MOST_GRAINS);
+            amounts.copy(from.amounts, MOST_GRAINS);
             for (int i = 0; i < lots.length; i++) {
                 Lot source = from.at(i);
                 Lot target = lots[i];
@@ -919,11 +950,25 @@ public final class VineyardBlends {
                 return LIMIT_REACHED;
             }
             wine.copy(like);
+            wine.lay(like, closeUp());
             wine.kind = kind;
             wine.number = nextNumber;
             size++;
             nextNumber++;
             return wine.number;
+        }
+
+        /** Fills the places of grains that are gone, so that all free ones, whose first one is told, stand at the end. */
+        private int closeUp() {
+            int free = 0;
+            for (int i = 0; i < size; i++) {
+                Lot wine = at(i);
+                if (wine != null) {
+                    wine.lay(wine, free);
+                    free += wine.grains;
+                }
+            }
+            return free;
         }
 
         /** The rows of a lot that is gone change places with those of a lot that stays, to be used again. */
@@ -1062,11 +1107,15 @@ public final class VineyardBlends {
     /** A blend that is made aside, with what would be left of the cellar behind the taking. */
     private static final class Trial {
         private final Cellar rest = new Cellar();
-        private final Lot mix = new Lot();
-        private final Sharing sharing = new Sharing();
+        private final Lot mix = new Lot(new Row(MOST_GRAINS), new Row(MOST_GRAINS));
+        private final Sharing sharing;
         private final Row weights = new Row(MOST_LOTS);
         private final Row portions = new Row(MOST_LOTS);
         private int lost;
+
+        Trial(Sharing sharing) {
+            this.sharing = sharing;
+        }
 
         /** Answers false if the recipe is empty or a lot has not as much as is taken from it. */
         boolean make(Cellar now, int litres) {
@@ -1097,7 +1146,7 @@ public final class VineyardBlends {
                 Lot wine = now.at(i);
                 weights.put(i, wine == null ? 0 : wine.parts);
             }
-            sharing.spread(litres, weights, now.size);
+            sharing.spread(litres, weights, 0, now.size);
             portions.copy(sharing.parts, now.size);
             for (int i = 0; i < now.size; i++) {
                 Lot wine = now.at(i);
