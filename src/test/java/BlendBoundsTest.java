@@ -452,11 +452,11 @@ public final class BlendBoundsTest {
 
         due.sentence("Promise 11", "Tells what a blend would be. Nothing changes.");
         VineyardBlends y = withParts(3, 2);
-        String before = State.of(y);
+        String before = Snapshot.of(y);
         for (int what = 0; what < 8; what++) {
             y.ifBlend(10000, what);
         }
-        due.is("state", State.of(y), before);
+        due.is("state", Snapshot.of(y), before);
     }
 
     private static void ifBlendErrors(Due due) {

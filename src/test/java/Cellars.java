@@ -70,6 +70,28 @@ final class Cellars {
         return x;
     }
 
+    /** Lots 0 and 1 in steel, lot 2 in oak that is blended from them; scores, two rules, a text, and a full history. */
+    static VineyardBlends rich() {
+        VineyardBlends x = new VineyardBlends();
+        x.set(0, 50);
+        x.bring(400, 1, 2020, 3, 1200, 60);
+        x.bring(300, 2, 2021, 4, 1000, 80);
+        x.sweeten(1, 40);
+        x.recipe(0, 3);
+        x.recipe(1, 2);
+        x.blend(200, 1);
+        x.score(0, 0, 100);
+        x.score(0, 5, 180);
+        x.score(2, 1, 90);
+        x.bottle(0, 11, 75);
+        x.set(2, 20);
+        x.months(2);
+        rules(x, "sugar most 400;origin 2 most 99;");
+        text(x, "acid most 90;");
+        x.recipe(2, 1);
+        return x;
+    }
+
     /** Empties the text and types another one, as far as it goes. */
     static void text(VineyardBlends x, String text) {
         x.clearText();

@@ -23,31 +23,9 @@ public final class ChangesTest {
         due.end();
     }
 
-    /** Lots 0 and 1 in steel, lot 2 in oak that is blended from them; scores, two rules, a text, and a full history. */
-    private static VineyardBlends rich() {
-        VineyardBlends x = new VineyardBlends();
-        x.set(0, 50);
-        x.bring(400, 1, 2020, 3, 1200, 60);
-        x.bring(300, 2, 2021, 4, 1000, 80);
-        x.sweeten(1, 40);
-        x.recipe(0, 3);
-        x.recipe(1, 2);
-        x.blend(200, 1);
-        x.score(0, 0, 100);
-        x.score(0, 5, 180);
-        x.score(2, 1, 90);
-        x.bottle(0, 11, 75);
-        x.set(2, 20);
-        x.months(2);
-        Cellars.rules(x, "sugar most 400;origin 2 most 99;");
-        Cellars.text(x, "acid most 90;");
-        x.recipe(2, 1);
-        return x;
-    }
-
     /** The call changes what is told here and nothing else, and undo restores all that was before it. */
     private void change(String call, Consumer<VineyardBlends> made, String... changes) {
-        VineyardBlends x = rich();
+        VineyardBlends x = Cellars.rich();
         Snapshot before = new Snapshot(x);
         made.accept(x);
         due.is("what " + call + " changes", before.changesTo(new Snapshot(x)), String.join(" ", changes));
@@ -57,7 +35,7 @@ public final class ChangesTest {
 
     /** As change, for a call that is none: nothing of it is recorded. */
     private void noChange(String call, Consumer<VineyardBlends> made, String... changes) {
-        VineyardBlends x = rich();
+        VineyardBlends x = Cellars.rich();
         Snapshot before = new Snapshot(x);
         made.accept(x);
         due.is("what " + call + " changes", before.changesTo(new Snapshot(x)), String.join(" ", changes));
@@ -119,7 +97,7 @@ public final class ChangesTest {
                 lot(3, 114, 2, 1120, 68, 16, 0, 0, 0, 0), grain(3, 0, 1, 2020, 3, 68), grain(3, 1, 2, 2021, 4, 46),
                 noScores(3), "bits(3)=" + (3L << 57 | 3L << 12) + ";");
         due.sentence("Promise 10", "Blends", "A lot that is gone leaves the recipe.");
-        VineyardBlends x = rich();
+        VineyardBlends x = Cellars.rich();
         x.recipe(0, 0);
         x.recipe(1, 0);
         Snapshot before = new Snapshot(x);
@@ -157,7 +135,7 @@ public final class ChangesTest {
                 gone("lot(2", 9), gone("grain(2, 0", 4), gone("grain(2, 1", 4), gone("panel(2", 4), "bits(2) gone; ranked(1) gone;");
         due.sentence("Promise 18", "Panel", "Every bottle whose number, from 1 on over the whole run (each call is a run), is divisible by the setting reject "
                 + "(if this is above 0) is broken.");
-        VineyardBlends x = rich();
+        VineyardBlends x = Cellars.rich();
         x.set(3, 2);
         String[] runs = {
             "account(3)=20; account(4)=664; account(5)=19; account(6)=4; lot(2, 0)=175; grain(2, 0, 3)=105; grain(2, 1, 3)=70;",
@@ -227,7 +205,7 @@ public final class ChangesTest {
             x.undo();
         }, "count(12)=2;");
         due.sentence("Promise 22", "Returns the number of states that are left in the history; NOT_POSSIBLE if it is empty.");
-        VineyardBlends x = rich();
+        VineyardBlends x = Cellars.rich();
         for (int left = 3; left >= 0; left--) {
             due.is("undo", x.undo(), left);
         }

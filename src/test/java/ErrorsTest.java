@@ -63,7 +63,7 @@ public final class ErrorsTest {
     private void error(String call, int want, Supplier<VineyardBlends> cellar, ToIntFunction<VineyardBlends> answer) {
         VineyardBlends x = cellar.get();
         due.is(call, answer.applyAsInt(x), want);
-        due.is("state behind " + call, State.andBefore(x), State.andBefore(cellar.get()));
+        due.is("state behind " + call, Snapshot.andBefore(x), Snapshot.andBefore(cellar.get()));
     }
 
     private void error(String call, int want, ToIntFunction<VineyardBlends> answer) {
@@ -388,7 +388,7 @@ public final class ErrorsTest {
     }
 
     private static String seen(VineyardBlends x) {
-        String state = State.of(x);
+        String state = Snapshot.of(x);
         return state.substring(0, state.indexOf(" fault"));
     }
 

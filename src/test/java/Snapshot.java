@@ -46,6 +46,17 @@ final class Snapshot {
         seen.put("bits(" + lot + ")", x.bits(lot));
     }
 
+    /** All of it as one text. */
+    static String of(VineyardBlends x) {
+        return new Snapshot(x).seen.toString();
+    }
+
+    /** The state, and the one that undo brings back. */
+    static String andBefore(VineyardBlends x) {
+        String now = of(x);
+        return now + " | undo " + x.undo() + " " + of(x);
+    }
+
     /** What is another one in the later snapshot, as "call=answer", in the order of the calls; "call gone" if it is not there. */
     String changesTo(Snapshot later) {
         StringBuilder changes = new StringBuilder();
